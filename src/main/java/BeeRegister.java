@@ -508,12 +508,10 @@ public final class BeeRegister {
             }
             sort[last] = END;
             place[last] = length;
-            content[last] = 0;
         }
 
         private void keep(byte[] text, int from, int to) {
             place[last] = from;
-            content[last] = 0;
             if (isLetter(text[from])) {
                 keepWord(text, from, to);
             } else if (isDigit(text[from])) {
@@ -682,7 +680,6 @@ public final class BeeRegister {
         void begin(long called, int toldBy) {
             name = called;
             teller = toldBy;
-            sort = WHOLE;
             flags = 0;
             names = 0;
             target = NONE;
@@ -730,11 +727,11 @@ public final class BeeRegister {
         final int[] hookMember = new int[HOOK_ROOM];
         final int[] hookAmount = new int[HOOK_ROOM];
 
-        void begin(long called) {
+        void begin(long called, int asRoot, int inWay) {
             name = called;
             parent = NONE;
-            root = NONE;
-            way = ONE;
+            root = asRoot;
+            way = inWay;
             members = 0;
             hooks = 0;
         }
@@ -830,9 +827,7 @@ public final class BeeRegister {
 
         Kind addClass(long name, int parent, int way) {
             Kind added = kind[classes];
-            added.begin(name);
-            added.root = classes;
-            added.way = way;
+            added.begin(name, classes, way);
             Kind above = kindAt(parent);
             if (above != null) {
                 added.parent = parent;
@@ -1250,7 +1245,6 @@ public final class BeeRegister {
                 if (!readOpenings() || !readTerm()) {
                     return false;
                 }
-                joinDown(Question.NOT);
                 if (!readClosings()) {
                     return false;
                 }
@@ -1297,7 +1291,6 @@ public final class BeeRegister {
                 waits--;
                 opened--;
                 tokens.pass();
-                joinDown(Question.NOT);
             }
             return true;
         }

@@ -110,12 +110,11 @@ public final class RandomTest {
         return model.object(o, 0) == 1 || model.object(o, 0) == 2;
     }
 
-    /** A member of a class that is a reference, or a value, if one is found soon. */
-    private int memberOf(int c, boolean reference, int otherwise) {
-        for (int tries = 0; tries < 6; tries++) {
+    /** A member of a class that is of a sort, if one is found soon. */
+    private int memberOf(int c, int sort, int otherwise) {
+        for (int tries = 0; tries < 20; tries++) {
             int m = random.nextInt(16);
-            int sort = model.member(c, m, 0);
-            if (reference ? sort == 4 : sort >= 0 && sort < 4) {
+            if (model.member(c, m, 0) == sort) {
                 return m;
             }
         }
@@ -192,7 +191,7 @@ public final class RandomTest {
             case 14:
                 int put = some();
                 if (isLive(o)) {
-                    m = memberOf(model.object(o, 2), false, m);
+                    m = memberOf(model.object(o, 2), random.nextInt(4), m);
                 }
                 same("put(" + o + ", " + m + ", " + put + ")", x.put(o, m, put), model.put(o, m, put));
                 break;
@@ -202,12 +201,15 @@ public final class RandomTest {
             case 18:
                 int to = random.nextInt(12) == 0 ? -1 - random.nextInt(20) / 19 : objectIn(u);
                 if (isLive(o) && random.nextInt(4) > 0) {
-                    m = memberOf(model.object(o, 2), true, m);
+                    m = memberOf(model.object(o, 2), 4, m);
                     to = random.nextInt(10) == 0 ? -1 : objectFor(u, model.member(model.object(o, 2), m, 1), to);
                 }
                 same("link(" + o + ", " + m + ", " + to + ")", x.link(o, m, to), model.link(o, m, to));
                 break;
             case 19:
+                if (isLive(o)) {
+                    m = memberOf(model.object(o, 2), 5, m);
+                }
                 same("size(" + o + ", " + m + ")", x.size(o, m), model.size(o, m));
                 int i = random.nextInt(5) - 1;
                 int met = model.item(o, m, i);
@@ -329,7 +331,7 @@ public final class RandomTest {
     }
 
     public static void main(String[] args) {
-        int runs = args.length > 0 ? Integer.parseInt(args[0]) : 400;
+        int runs = args.length > 0 ? Integer.parseInt(args[0]) : 1500;
         int from = args.length > 1 ? Integer.parseInt(args[1]) : 0;
         for (int seed = from; seed < from + runs; seed++) {
             RandomTest test = new RandomTest(seed);

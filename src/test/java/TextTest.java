@@ -100,13 +100,43 @@ public final class TextTest {
         Kit.due("none found", x.found(0), NONE);
         Kit.due("object(0, 0)", x.object(0, 0), NONE);
         x.unit();
-        Kit.due("make", x.make(0, 1), 0);
+        Kit.due("make", x.make(0, 0), 0);
         Kit.due("keys anew", x.object(0, 1), 1);
         Kit.due("map() of nothing", x.map(), 0);
         Kit.due("no classes", x.count(0), 0);
     }
 
+    /** Nothing of an earlier text is left in a later one. */
+    private static void mapsOften() {
+        BeeRegister x = new BeeRegister();
+        StringBuilder names = new StringBuilder("class A { a : ( x0");
+        for (int i = 1; i < 100; i++) {
+            names.append(",x").append(i);
+        }
+        for (int i = 0; i < 40; i++) {
+            Kit.due("map()", Kit.map(x, names + ") unique ; b : to A must owned ; n : whole ; hook insert n + 1 ; }"), 1);
+            Kit.due("names", x.member(0, 0, 1), 100);
+            Kit.due("a fault", Kit.map(x, "class A { c : to B must owned ; }"), NONE);
+        }
+        Kit.map(x, "class A { }");
+        Kit.due("map()", Kit.map(x, "class C { n : whole ; b : to C ; e : ( p ) ; }"), 1);
+        Kit.due("members", x.look(0, 3), 3);
+        for (int m = 0; m < 3; m++) {
+            Kit.due("flags", x.member(0, m, 2), 0);
+        }
+        Kit.due("names", x.member(0, 2, 1), 1);
+        x.unit();
+        x.make(0, 0);
+        Kit.due("flush", x.flush(0), 0);
+        Kit.due("no hook", x.value(0, 0), 0);
+    }
+
     private static void tokens() {
+        accepted("class azAZ09 { }", 1);
+        refused("class ^`", 1);
+        refused("class ^[", 1);
+        refused("class ^@", 1);
+        refused("class A ^/", 1);
         accepted("", 0);
         accepted(" \t\n\r", 0);
         accepted("class A{}class B{}", 2);
@@ -274,6 +304,7 @@ public final class TextTest {
         newObject();
         tape();
         mapsAnew();
+        mapsOften();
         tokens();
         grammar();
         names();

@@ -348,6 +348,31 @@ public final class UnitTest {
         Kit.due("no room is needed", x.item(0, 1, 0), 2);
     }
 
+    /** Objects stand between rows, by their keys. */
+    private static void listsInOrder() {
+        BeeRegister x = Kit.mapped(BEES);
+        x.unit();
+        x.make(0, 0);
+        for (int i = 1; i < 7; i++) {
+            x.make(0, 1);
+            x.link(i, 0, 0);
+        }
+        Kit.due("close", x.close(0, 1), 0);
+        x.unit();
+        x.find(0, 1, 5);
+        x.find(0, 1, 1);
+        x.find(0, 1, 3);
+        x.find(0, 0, 1);
+        x.make(0, 1);
+        x.link(4, 0, 3);
+        Kit.due("size", x.size(3, 1), 7);
+        for (int i = 0; i < 7; i++) {
+            Kit.due("key " + i, x.object(x.item(3, 1, i), 1), i + 1);
+        }
+        Kit.due("the first one", x.item(3, 1, 0), 1);
+        Kit.due("the fifth one", x.item(3, 1, 4), 0);
+    }
+
     private static void drops() {
         BeeRegister x = written();
         x.unit();
@@ -398,6 +423,9 @@ public final class UnitTest {
         state(x, 59, LOADED);
         Kit.due("what was met stays so", x.object(59, 1), 1);
         Kit.due("loads", x.loads(0), 2);
+        Kit.due("the hive alone", x.drop(59), 1);
+        state(x, 59, DROPPED);
+        Kit.due("still no room", x.drop(0), -2);
     }
 
     /** The row is walked one behind the other, and a circle has an end. */
@@ -440,6 +468,7 @@ public final class UnitTest {
         stands();
         goneStands();
         lists();
+        listsInOrder();
         drops();
         dropsInCircles();
         Kit.finish();

@@ -219,6 +219,8 @@ public final class WritingTest {
         Kit.came(x, 1, 0, 2, 0, 1);
         Kit.wrote(x, 0, 0, 1, 3, 0);
         noWrite(x, 1);
+        Kit.due("all rows are as they were", x.count(2), 3);
+        Kit.due("the new one is new", x.object(3, 0), 2);
         x.put(2, 0, 1);
         x.make(0, 0);
         x.put(4, 0, 9);
