@@ -4,6 +4,8 @@ import java.nio.charset.StandardCharsets;
 final class Kit {
     private static int calls = 0;
     private static int wrong = 0;
+    private static String about = "";
+    private static int callsAhead = 0;
 
     private Kit() {
     }
@@ -12,7 +14,20 @@ final class Kit {
         calls++;
         if (got != want) {
             wrong++;
-            System.out.println(what + " answered " + got + ", due is " + want);
+            System.out.println(about + what + " answered " + got + ", due is " + want);
+        }
+    }
+
+    /** Names the sentence that the answers behind this are about; one without an answer would test nothing. */
+    static void about(String sentence) {
+        endSentence();
+        about = sentence.isEmpty() ? "" : sentence + ": ";
+        callsAhead = calls;
+    }
+
+    private static void endSentence() {
+        if (!about.isEmpty() && calls == callsAhead) {
+            due("the number of answers", 0, 1);
         }
     }
 
@@ -65,11 +80,29 @@ final class Kit {
         due("fault(1) of " + text, x.fault(1), place);
     }
 
+    /** A text of classes that is refused; ^ stands ahead of the token with the fault. */
+    static void refused(String marked, int fault) {
+        faulty(marked.replace("^", ""), fault, marked.indexOf('^'));
+    }
+
+    static void accepted(String text, int classes) {
+        BeeRegister x = new BeeRegister();
+        due("map() of " + text, map(x, text), classes);
+        due("fault(0) of " + text, x.fault(0), 0);
+        due("fault(1) of " + text, x.fault(1), BeeRegister.NONE);
+        due("count(0) of " + text, x.count(0), classes);
+    }
+
     /** A question that is refused, with its fault and place. */
     static void faultyQuestion(BeeRegister x, int unit, String text, int fault, int place) {
         due("ask() of " + text, ask(x, unit, text), BeeRegister.NONE);
         due("fault(0) of " + text, x.fault(0), fault);
         due("fault(1) of " + text, x.fault(1), place);
+    }
+
+    /** A question that is refused; ^ stands ahead of the token with the fault. */
+    static void refusedQuestion(BeeRegister x, int unit, String marked, int fault) {
+        faultyQuestion(x, unit, marked.replace("^", ""), fault, marked.indexOf('^'));
     }
 
     /** A question with the keys that are told. */
@@ -100,6 +133,7 @@ final class Kit {
     }
 
     static void finish() {
+        about("");
         System.out.println(calls + " answers, " + wrong + " wrong");
         if (wrong != 0 || calls == 0) {
             System.exit(1);

