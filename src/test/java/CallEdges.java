@@ -33,10 +33,6 @@ final class CallEdges {
         loads();
     }
 
-    private static void state(BeeRegister x, int o, int state) {
-        Kit.due("state of " + o, x.object(o, 0), state);
-    }
-
     /**
      * Unit 0 with six objects: rows 1 to 4 of A (of 4 the class is B), of which 1 is dropped, 2 loaded, 3 a stand and
      * 4 loaded; object 4 is new, object 5 gone. Each row leads to row 3, row 3 to row 2 (so 1 and 2 were put off).
@@ -92,7 +88,7 @@ final class CallEdges {
         Kit.due("make", y.make(1, 1), 100);
         Kit.due("make", y.make(1, 0), 101);
         Kit.due("make", y.make(0, 1), 0);
-        state(y, 0, NEW);
+        Kit.state(y, 0, NEW);
         Kit.due("its class", y.object(0, 2), 1);
         Kit.due("its class", y.object(101, 2), 0);
         Kit.due("its value", y.value(0, 0), 0);
@@ -146,21 +142,21 @@ final class CallEdges {
         BeeRegister x = six();
         Kit.due("a new one", x.find(0, 0, 5), 4);
         Kit.due("a new one of the class above", x.find(0, 1, 5), NONE);
-        state(x, 4, NEW);
+        Kit.state(x, 4, NEW);
         Kit.due("loads", x.loads(0), 3);
         Kit.due("a stand of the class above", x.find(0, 1, 3), NONE);
-        state(x, 2, STAND);
+        Kit.state(x, 2, STAND);
         Kit.due("a row of the class above", x.find(0, 1, 2), NONE);
         Kit.due("loads", x.loads(0), 3);
         Kit.due("the stand", x.find(0, 0, 3), 2);
-        state(x, 2, LOADED);
+        Kit.state(x, 2, LOADED);
         Kit.due("loads", x.loads(0), 4);
         Sentences.promise(14, "The row of class c (or an HEIR) with a KEY is met and LOADED: its object");
         Kit.due("of the heir", x.find(0, 1, 4), 3);
         Kit.due("as the class above", x.find(0, 0, 4), 3);
         x.unit();
         Kit.due("in another unit", x.find(1, 0, 4), 100);
-        state(x, 100, LOADED);
+        Kit.state(x, 100, LOADED);
         Kit.due("its class", x.object(100, 2), 1);
         Kit.due("again", x.find(1, 1, 4), 100);
         Kit.due("loads", x.loads(1), 1);
@@ -186,9 +182,9 @@ final class CallEdges {
         BeeRegister x = six();
         int[] states = {DROPPED, LOADED, STAND, LOADED, NEW, GONE};
         for (int o = 0; o < 6; o++) {
-            state(x, o, states[o]);
+            Kit.state(x, o, states[o]);
             Kit.due("key of " + o, x.object(o, 1), o + 1);
-            state(x, o, states[o]);
+            Kit.state(x, o, states[o]);
         }
         Kit.due("loads", x.loads(0), 3);
 
@@ -201,7 +197,7 @@ final class CallEdges {
         for (int what : new int[] {-1, 4, Integer.MAX_VALUE, Integer.MIN_VALUE}) {
             Kit.due("object(2, " + what + ")", x.object(2, what), NONE);
         }
-        state(x, 2, STAND);
+        Kit.state(x, 2, STAND);
         Kit.due("class of one that is gone", x.object(5, 2), NONE);
         Kit.due("version of one that is gone", x.object(5, 3), NONE);
 
@@ -213,7 +209,7 @@ final class CallEdges {
             Kit.due("version of " + o, x.object(o, 3), versions[o]);
             Kit.due("class of " + o, x.object(o, 2), classes[o]);
         }
-        state(x, 2, LOADED);
+        Kit.state(x, 2, LOADED);
         Kit.due("loads", x.loads(0), 4);
         x.other(0, 4, 0, 9);
         Kit.due("not the row's version", x.object(3, 3), 1);
@@ -238,7 +234,7 @@ final class CallEdges {
         Kit.due("a value", x.value(1, 0), 0);
         Kit.due("empty", x.value(4, 1), NONE);
         Kit.due("a stand", x.value(1, 1), 2);
-        state(x, 2, STAND);
+        Kit.state(x, 2, STAND);
         x.unit();
         x.find(1, 0, 1);
         fill(x, 1);
@@ -318,7 +314,7 @@ final class CallEdges {
         BeeRegister x = six();
         Kit.due("empty", x.value(3, 3), NONE);
         Kit.due("a stand of the class above", x.link(3, 3, 2), false);
-        state(x, 2, LOADED);
+        Kit.state(x, 2, LOADED);
         Kit.due("loads", x.loads(0), 4);
         Kit.due("a loaded one of the class above", x.link(3, 3, 1), false);
         Kit.due("a new one of the class above", x.link(3, 3, 4), false);
@@ -326,7 +322,7 @@ final class CallEdges {
         Kit.due("the heir itself", x.link(3, 3, 3), true);
         x = six();
         Kit.due("a stand of the class", x.link(1, 1, 2), true);
-        state(x, 2, LOADED);
+        Kit.state(x, 2, LOADED);
     }
 
     private static void counting() {
@@ -370,7 +366,7 @@ final class CallEdges {
         x.unit();
         x.find(1, 0, 3);
         Kit.due("one comes", x.item(100, 2, 1), 101);
-        state(x, 101, STAND);
+        Kit.state(x, 101, STAND);
         fill(x, 1);
         Kit.due("no room", x.item(100, 2, 0), FULL);
         Kit.due("no room is needed", x.item(100, 2, 1), 101);
@@ -386,16 +382,16 @@ final class CallEdges {
         }
         Kit.due("dropped", x.drop(0), NONE);
         Kit.due("gone", x.drop(5), NONE);
-        state(x, 0, DROPPED);
-        state(x, 5, GONE);
+        Kit.state(x, 0, DROPPED);
+        Kit.state(x, 5, GONE);
         Kit.due("a stand", x.drop(2), 1);
-        state(x, 2, DROPPED);
+        Kit.state(x, 2, DROPPED);
         Kit.due("it was loaded", x.loads(0), 4);
         Kit.due("its version", x.object(2, 3), 1);
         Kit.due("a new one", x.drop(4), 1);
-        state(x, 4, GONE);
+        Kit.state(x, 4, GONE);
         Kit.due("a loaded one", x.drop(1), 1);
-        state(x, 1, DROPPED);
+        Kit.state(x, 1, DROPPED);
         Kit.due("again", x.drop(1), NONE);
     }
 
@@ -418,10 +414,10 @@ final class CallEdges {
             x.make(0, 0);
         }
         Kit.due("room for three of four", x.drop(0), FULL);
-        state(x, 0, LOADED);
-        state(x, 1, NEW);
+        Kit.state(x, 0, LOADED);
+        Kit.state(x, 1, NEW);
         for (int i = 0; i < 3; i++) {
-            state(x, 57 + i, LOADED);
+            Kit.state(x, 57 + i, LOADED);
             Kit.due("key of what was met", x.object(57 + i, 1), 2 + i);
         }
         Kit.due("loads", x.loads(0), 4);
@@ -430,16 +426,16 @@ final class CallEdges {
         Kit.due("what owns nothing can", x.drop(58), 1);
         x.link(57, 0, NONE);
         Kit.due("all that is left", x.drop(0), 3);
-        state(x, 57, DROPPED);
+        Kit.state(x, 57, DROPPED);
         x.unit();
         x.find(1, 0, 1);
         for (int i = 0; i < 57; i++) {
             x.make(1, 0);
         }
         Kit.due("room for one of two in a list", x.drop(100), FULL);
-        state(x, 100, LOADED);
-        state(x, 158, LOADED);
-        state(x, 159, LOADED);
+        Kit.state(x, 100, LOADED);
+        Kit.state(x, 158, LOADED);
+        Kit.state(x, 159, LOADED);
         Kit.due("key of what was met", x.object(159, 1), 3);
     }
 

@@ -123,6 +123,18 @@ final class Kit {
         due("write(" + i + ", 3)", x.write(i, 3), columns);
     }
 
+    /** There is no i-th write of the latest writing. */
+    static void noWrite(BeeRegister x, int i) {
+        for (int what = 0; what < 4; what++) {
+            due("write(" + i + ", " + what + ")", x.write(i, what), BeeRegister.NONE);
+        }
+    }
+
+    /** An object's state; asking for it loads nothing. */
+    static void state(BeeRegister x, int o, int state) {
+        due("object(" + o + ", 0)", x.object(o, 0), state);
+    }
+
     /** The latest writing's outcome. */
     static void came(BeeRegister x, int outcome, int c, int key, int member, int rule) {
         due("outcome(0)", x.outcome(0), outcome);

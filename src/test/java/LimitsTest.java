@@ -103,7 +103,7 @@ public final class LimitsTest {
     }
 
     /** Each object leads to the next one and the one ahead: all but the last one are put off. */
-    private static void manyWrites() {
+    static BeeRegister chainOfSixty() {
         BeeRegister x = Kit.mapped("class A { next : to A owned ; back : to A ; }");
         x.unit();
         for (int i = 0; i < 60; i++) {
@@ -113,6 +113,11 @@ public final class LimitsTest {
             x.link(i, 0, i < 59 ? i + 1 : NONE);
             x.link(i, 1, i - 1);
         }
+        return x;
+    }
+
+    private static void manyWrites() {
+        BeeRegister x = chainOfSixty();
         Kit.due("flush", x.flush(0), 0);
         for (int i = 0; i < 60; i += 6) {
             Kit.wrote(x, i, 0, 0, i + 1, 0);

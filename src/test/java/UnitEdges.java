@@ -36,10 +36,6 @@ final class UnitEdges {
         listsOfUnits();
     }
 
-    private static void state(BeeRegister x, int o, int state) {
-        Kit.due("state of " + o, x.object(o, 0), state);
-    }
-
     /** A register of CHAIN with rows 1 to many, each but the first leading to the one ahead; no unit is open. */
     static BeeRegister chained(int many) {
         BeeRegister x = Kit.mapped(CHAIN);
@@ -338,9 +334,9 @@ final class UnitEdges {
         x.unit();
         x.find(0, 0, 2);
         Kit.due("one comes", x.value(0, 1), 1);
-        state(x, 1, STAND);
+        Kit.state(x, 1, STAND);
         Kit.due("it is there", x.value(0, 1), 1);
-        state(x, 1, STAND);
+        Kit.state(x, 1, STAND);
         Kit.due("no other came", x.object(2, 0), NONE);
         x.unit();
         x.find(1, 0, 1);
@@ -356,7 +352,7 @@ final class UnitEdges {
         x.unit();
         x.find(0, 0, 2);
         x.value(0, 1);
-        state(x, 1, STAND);
+        Kit.state(x, 1, STAND);
         return x;
     }
 
@@ -375,14 +371,14 @@ final class UnitEdges {
                 case 6: Kit.due("put", x.put(1, 0, 5), true); break;
                 default: Kit.due("link", x.link(1, 1, 0), true);
             }
-            state(x, 1, LOADED);
+            Kit.state(x, 1, LOADED);
             Kit.due("loads", x.loads(0), 2);
         }
         BeeRegister y = standing();
         Kit.due("its key", y.object(1, 1), 1);
         Kit.due("what leads to it", y.value(0, 1), 1);
         Kit.due("a writing", y.flush(0), 0);
-        state(y, 1, STAND);
+        Kit.state(y, 1, STAND);
         Kit.due("loads", y.loads(0), 1);
 
         Sentences.term(3, "it is LOADED, its values are the row's, a copy of them and of the VERSION is kept");
@@ -408,7 +404,7 @@ final class UnitEdges {
             x.find(1, 0, 1);
             x.drop(101);
             Kit.due("its row is deleted", x.flush(1), 0);
-            state(x, 1, STAND);
+            Kit.state(x, 1, STAND);
             switch (how) {
                 case 0: Kit.due("a member", x.value(1, 0), NO_VALUE); break;
                 case 1: Kit.due("its class", x.object(1, 2), NONE); break;
@@ -419,7 +415,7 @@ final class UnitEdges {
                 case 6: Kit.due("link", x.link(1, 1, 0), false); break;
                 default: Kit.due("drop", x.drop(1), NONE);
             }
-            state(x, 1, GONE);
+            Kit.state(x, 1, GONE);
             Kit.due("no row was loaded", x.loads(0), 1);
         }
     }
@@ -446,7 +442,7 @@ final class UnitEdges {
         int[] keys = {1, 3, 2, 5, 4, 6};
         for (int o = 0; o < 6; o++) {
             Kit.due("key of " + o, x.object(o, 1), keys[o]);
-            state(x, o, DROPPED);
+            Kit.state(x, o, DROPPED);
         }
         Kit.due("what is not owned was not met", x.object(6, 0), NONE);
         Kit.due("loads", x.loads(0), 6);
@@ -471,7 +467,7 @@ final class UnitEdges {
         Kit.due("drop", x.drop(0), 6);
         int[] states = {DROPPED, DROPPED, DROPPED, DROPPED, DROPPED, LOADED, GONE, GONE};
         for (int o = 0; o < 8; o++) {
-            state(x, o, states[o]);
+            Kit.state(x, o, states[o]);
         }
     }
 
@@ -496,7 +492,7 @@ final class UnitEdges {
         x.link(2, 1, 0);
         Kit.due("a loaded one came", x.size(0, 2), 4);
         Kit.due("a stand", x.object(x.item(0, 2, 0), 1), 3);
-        state(x, 3, STAND);
+        Kit.state(x, 3, STAND);
         x.other(0, 3, 1, 0);
         Kit.due("the stand's row left", x.size(0, 2), 3);
         x.other(0, 3, 1, 1);

@@ -14,10 +14,6 @@ public final class UnitTest {
             + "class Bee { age : small ; hive : to Hive owned ; } "
             + "class Queen of Bee { line : to Queen ; x : whole ; kids : list Queen by line ; }";
 
-    private static void state(BeeRegister x, int o, int state) {
-        Kit.due("object(" + o + ", 0)", x.object(o, 0), state);
-    }
-
     /** Site 1 with hives 1 and 2, bee 1 and queen 2 in hive 1; written by a unit that is closed. */
     private static BeeRegister written() {
         BeeRegister x = Kit.mapped(BEES);
@@ -76,7 +72,7 @@ public final class UnitTest {
         Kit.due("a family counts its own", x.object(1, 1), 2);
         Kit.due("over all units", x.object(100, 1), 3);
         Kit.due("another family", x.object(2, 1), 1);
-        state(x, 1, NEW);
+        Kit.state(x, 1, NEW);
         Kit.due("class", x.object(1, 2), 3);
         Kit.due("version", x.object(1, 3), 0);
         Kit.due("object(1, 4)", x.object(1, 4), NONE);
@@ -168,7 +164,7 @@ public final class UnitTest {
         Kit.due("empty", x.link(0, 0, NONE), true);
         Kit.due("value", x.value(0, 0), NONE);
         x.drop(1);
-        state(x, 1, GONE);
+        Kit.state(x, 1, GONE);
         Kit.due("to one that is gone", x.link(0, 0, 1), false);
         x.link(0, 0, NONE);
         x.link(0, 1, 2);
@@ -189,22 +185,22 @@ public final class UnitTest {
         Kit.due("nothing was met", x.object(0, 0), NONE);
         Kit.due("of an heir", x.find(0, 2, 2), 0);
         Kit.due("again", x.find(0, 3, 2), 0);
-        state(x, 0, LOADED);
+        Kit.state(x, 0, LOADED);
         Kit.due("class", x.object(0, 2), 3);
         Kit.due("version", x.object(0, 3), 1);
         Kit.due("loads", x.loads(0), 1);
         Kit.due("its hive", x.value(0, 1), 1);
-        state(x, 1, STAND);
+        Kit.state(x, 1, STAND);
         Kit.due("key of a stand", x.object(1, 1), 1);
-        state(x, 1, STAND);
+        Kit.state(x, 1, STAND);
         Kit.due("another class", x.find(0, 0, 1), 2);
         Kit.due("the stand is found", x.find(0, 1, 1), 1);
-        state(x, 1, LOADED);
+        Kit.state(x, 1, LOADED);
         Kit.due("loads", x.loads(0), 3);
         x.make(0, 2);
         Kit.due("a new one", x.find(0, 2, 3), 3);
         Kit.due("a new one, as an heir", x.find(0, 3, 3), NONE);
-        state(x, 3, NEW);
+        Kit.state(x, 3, NEW);
         x.drop(3);
         Kit.due("one that is gone", x.find(0, 2, 3), NONE);
         x.drop(0);
@@ -231,31 +227,31 @@ public final class UnitTest {
         x.value(0, 1);
         Kit.due("loads", x.loads(0), 1);
         Kit.due("a value loads", x.value(1, 2), -5);
-        state(x, 1, LOADED);
+        Kit.state(x, 1, LOADED);
         Kit.due("loads", x.loads(0), 2);
         Kit.due("site", x.value(1, 0), 2);
-        state(x, 2, STAND);
+        Kit.state(x, 2, STAND);
         Kit.due("its class loads", x.object(2, 2), 0);
-        state(x, 2, LOADED);
+        Kit.state(x, 2, LOADED);
         x.close(0, 0);
         x.unit();
         x.find(0, 1, 1);
         x.value(0, 0);
         Kit.due("its version loads", x.object(1, 3), 1);
-        state(x, 1, LOADED);
+        Kit.state(x, 1, LOADED);
         x.close(0, 0);
         x.unit();
         x.find(0, 1, 1);
         x.value(0, 0);
         Kit.due("a list loads", x.size(1, 1), 2);
-        state(x, 1, LOADED);
+        Kit.state(x, 1, LOADED);
         Kit.due("loads", x.loads(0), 2);
         x.close(0, 0);
         x.unit();
         x.find(0, 1, 1);
         x.value(0, 0);
         Kit.due("put loads", x.put(1, 0, 71), true);
-        state(x, 1, LOADED);
+        Kit.state(x, 1, LOADED);
         Kit.due("version", x.object(1, 3), 1);
         Kit.due("flush", x.flush(0), 0);
         Kit.due("version", x.object(1, 3), 2);
@@ -265,18 +261,18 @@ public final class UnitTest {
         x.value(0, 0);
         x.item(1, 1, 0);
         x.find(0, 2, 1);
-        state(x, 2, STAND);
+        Kit.state(x, 2, STAND);
         Kit.due("link loads the other one, too", x.link(3, 1, 2), true);
-        state(x, 2, LOADED);
+        Kit.state(x, 2, LOADED);
         x.close(0, 0);
         x.unit();
         x.find(0, 1, 1);
         x.value(0, 0);
-        state(x, 1, STAND);
+        Kit.state(x, 1, STAND);
         Kit.due("no reference", x.link(0, 2, 1), false);
-        state(x, 1, STAND);
+        Kit.state(x, 1, STAND);
         Kit.due("link to a stand of a wrong class", x.link(0, 1, 1), false);
-        state(x, 1, LOADED);
+        Kit.state(x, 1, LOADED);
         Kit.due("nothing happened", x.value(0, 1), NONE);
     }
 
@@ -290,14 +286,14 @@ public final class UnitTest {
         x.link(100, 1, NONE);
         x.find(0, 1, 1);
         x.item(0, 5, 0);
-        state(x, 1, STAND);
+        Kit.state(x, 1, STAND);
         x.drop(101);
         Kit.due("flush", x.flush(1), 0);
-        state(x, 1, STAND);
+        Kit.state(x, 1, STAND);
         Kit.due("find without the row", x.find(0, 2, 1), NONE);
         Kit.due("its key", x.object(1, 1), 1);
         Kit.due("its class", x.object(1, 2), NONE);
-        state(x, 1, GONE);
+        Kit.state(x, 1, GONE);
         Kit.due("its version", x.object(1, 3), NONE);
         Kit.due("its value", x.value(1, 0), NO_VALUE);
         Kit.due("put", x.put(1, 0, 1), false);
@@ -321,7 +317,7 @@ public final class UnitTest {
         Kit.due("item -1", x.item(0, 1, -1), NONE);
         Kit.due("item 2", x.item(0, 1, 2), NONE);
         Kit.due("item 1", x.item(0, 1, 1), 1);
-        state(x, 1, STAND);
+        Kit.state(x, 1, STAND);
         Kit.due("item 1 again", x.item(0, 1, 1), 1);
         Kit.due("its key", x.object(1, 1), 2);
         Kit.due("a new hive", x.make(0, 1), 2);
@@ -381,7 +377,7 @@ public final class UnitTest {
         Kit.due("a site with its hives", x.drop(0), 3);
         Kit.due("they were loaded", x.loads(0), 3);
         for (int o = 0; o < 3; o++) {
-            state(x, o, DROPPED);
+            Kit.state(x, o, DROPPED);
             Kit.due("again", x.drop(o), NONE);
             Kit.due("value", x.value(o, 0), NO_VALUE);
             Kit.due("put", x.put(o, 2, 0), false);
@@ -403,14 +399,14 @@ public final class UnitTest {
         x.link(2, 0, 1);
         x.link(0, 1, 2);
         Kit.due("a loaded one and a new one", x.drop(0), 2);
-        state(x, 0, DROPPED);
-        state(x, 1, NEW);
-        state(x, 2, GONE);
+        Kit.state(x, 0, DROPPED);
+        Kit.state(x, 1, NEW);
+        Kit.state(x, 2, GONE);
         Kit.due("key of one that is gone", x.object(2, 1), 3);
         Kit.due("class of one that is gone", x.object(2, 2), NONE);
         Kit.due("version of one that is gone", x.object(2, 3), NONE);
         Kit.due("a new one alone", x.drop(1), 1);
-        state(x, 1, GONE);
+        Kit.state(x, 1, GONE);
         x.close(0, 0);
 
         x.unit();
@@ -419,12 +415,12 @@ public final class UnitTest {
             x.make(0, 0);
         }
         Kit.due("no room for the second hive", x.drop(0), -2);
-        state(x, 0, LOADED);
-        state(x, 59, LOADED);
+        Kit.state(x, 0, LOADED);
+        Kit.state(x, 59, LOADED);
         Kit.due("what was met stays so", x.object(59, 1), 1);
         Kit.due("loads", x.loads(0), 2);
         Kit.due("the hive alone", x.drop(59), 1);
-        state(x, 59, DROPPED);
+        Kit.state(x, 59, DROPPED);
         Kit.due("still no room", x.drop(0), -2);
     }
 
@@ -448,7 +444,7 @@ public final class UnitTest {
         Kit.due("one that leads to itself", x.drop(4), 1);
         Kit.due("one that owns nothing", x.drop(6), 1);
         Kit.due("the circle and what leads in", x.drop(5), 5);
-        state(x, 3, DROPPED);
+        Kit.state(x, 3, DROPPED);
         Kit.due("flush", x.flush(0), 1);
         Kit.came(x, 1, 0, 1, 0, 2);
         x.close(0, 0);
@@ -456,7 +452,7 @@ public final class UnitTest {
         x.find(0, 0, 5);
         Kit.due("drop", x.drop(0), 1);
         Kit.due("its own reference does not keep it", x.flush(0), 0);
-        state(x, 0, GONE);
+        Kit.state(x, 0, GONE);
     }
 
     public static void main(String[] args) {

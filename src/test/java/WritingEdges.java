@@ -35,14 +35,6 @@ final class WritingEdges {
         refusedFromOutside();
     }
 
-    private static void state(BeeRegister x, int o, int state) {
-        Kit.due("state of " + o, x.object(o, 0), state);
-    }
-
-    private static void noWrite(BeeRegister x, int i) {
-        Kit.due("write(" + i + ", 0)", x.write(i, 0), NONE);
-    }
-
     private static BeeRegister opened(String text, int... classes) {
         BeeRegister x = Kit.mapped(text);
         x.unit();
@@ -61,7 +53,7 @@ final class WritingEdges {
             for (int i = 0; i < 5; i++) {
                 Kit.wrote(x, i, how, due[i][0], due[i][1], how == 1 ? 1 : 0);
             }
-            noWrite(x, 5);
+            Kit.noWrite(x, 5);
             for (int o = 4; o >= 0; o--) {
                 if (how == 0) {
                     x.put(o, 0, 7);
@@ -119,7 +111,7 @@ final class WritingEdges {
         for (int i = 0; i < 5; i++) {
             Kit.wrote(x, i, 0, due[i][0], due[i][1], 0);
         }
-        noWrite(x, 5);
+        Kit.noWrite(x, 5);
         Kit.due("one that leads to itself is not put off", x.object(1, 3), 1);
     }
 
@@ -137,7 +129,7 @@ final class WritingEdges {
             Kit.wrote(x, i, 0, 0, i + 1, 0);
         }
         Kit.wrote(x, 3, 1, 0, 1, 2);
-        noWrite(x, 4);
+        Kit.noWrite(x, 4);
         int[] row = {0, 2, 1, 2, 3};
         for (int column = 0; column < 5; column++) {
             Kit.due("it leads there in the end", x.cell(0, 1, column), row[column]);
@@ -151,7 +143,7 @@ final class WritingEdges {
         Kit.wrote(x, 0, 0, 0, 2, 0);
         Kit.wrote(x, 1, 0, 0, 1, 0);
         Kit.wrote(x, 2, 1, 0, 2, 1);
-        noWrite(x, 3);
+        Kit.noWrite(x, 3);
     }
 
     private static void circles() {
@@ -166,7 +158,7 @@ final class WritingEdges {
         Kit.wrote(x, 0, 0, 0, 1, 0);
         Kit.wrote(x, 1, 0, 1, 1, 0);
         Kit.wrote(x, 2, 0, 2, 1, 0);
-        noWrite(x, 3);
+        Kit.noWrite(x, 3);
         Kit.due("rows", x.count(2), 0);
         Kit.due("the unit stays", x.count(1), 1);
         x.link(2, 0, 0);
@@ -194,7 +186,7 @@ final class WritingEdges {
         Kit.wrote(x, 2, 1, 0, 3, 1);
         Kit.wrote(x, 3, 1, 0, 4, 1);
         Kit.wrote(x, 4, 1, 1, 1, 3);
-        noWrite(x, 5);
+        Kit.noWrite(x, 5);
         int[] versions = {2, 1, 2, 2, 1};
         for (int o = 0; o < 5; o++) {
             Kit.due("version of " + o, x.object(o, 3), versions[o]);
@@ -219,7 +211,7 @@ final class WritingEdges {
         for (int i = 0; i < 4; i++) {
             Kit.wrote(x, i, 2, due[i][0], due[i][1], 0);
         }
-        noWrite(x, 4);
+        Kit.noWrite(x, 4);
         x.make(0, 0);
         x.make(0, 0);
         x.make(0, 0);
@@ -232,7 +224,7 @@ final class WritingEdges {
         Kit.due("two that lead to each other", x.flush(0), 1);
         Kit.came(x, 1, 0, 4, 0, 2);
         Kit.wrote(x, 0, 2, 0, 6, 0);
-        noWrite(x, 1);
+        Kit.noWrite(x, 1);
     }
 
     /** Rows 1 and 2 are loaded by units 0 and 1; row 2 leads to row 1. */
@@ -267,7 +259,7 @@ final class WritingEdges {
             }
             Kit.due("unit 0 writes " + how, x.flush(0), 2);
             Kit.came(x, 2, 0, 2, NONE, NONE);
-            noWrite(x, 0);
+            Kit.noWrite(x, 0);
             Kit.due("rows", x.count(2), how < 2 ? 1 : 2);
         }
         BeeRegister y = twice();
@@ -321,7 +313,7 @@ final class WritingEdges {
         x.drop(1);
         Kit.due("what is dropped is deleted later", x.flush(0), 5);
         Kit.came(x, 5, 2, 61, NONE, NONE);
-        noWrite(x, 0);
+        Kit.noWrite(x, 0);
         Kit.due("the unit stays", x.count(1), 1);
         x = Kit.mapped("class A { a : to A must ; }");
         x.unit();
@@ -418,7 +410,7 @@ final class WritingEdges {
         Kit.wrote(x, 0, 0, 0, 4, 0);
         Kit.wrote(x, 1, 1, 0, 1, 1);
         Kit.wrote(x, 2, 2, 0, 2, 0);
-        noWrite(x, 3);
+        Kit.noWrite(x, 3);
         Kit.due("rows", x.count(2), 4);
         Kit.due("no row of the new one", x.cell(0, 4, 0), Long.MIN_VALUE);
         Kit.due("the row of the changed one", x.cell(0, 1, 2), 1);
@@ -426,7 +418,7 @@ final class WritingEdges {
         Kit.due("the row of the dropped one", x.cell(0, 2, 2), 1);
         int[] states = {LOADED, DROPPED, DROPPED, LOADED, NEW};
         for (int o = 0; o < 5; o++) {
-            state(x, o, states[o]);
+            Kit.state(x, o, states[o]);
         }
         Kit.due("by its hook", x.value(0, 0), 15);
         Kit.due("by its hook", x.value(4, 0), 1);
@@ -479,17 +471,17 @@ final class WritingEdges {
                 + "DROPPED ones are GONE.");
         BeeRegister x = opened("class A { n : whole ; }", 0, 0, 0);
         Kit.due("flush", x.flush(0), 0);
-        state(x, 0, LOADED);
+        Kit.state(x, 0, LOADED);
         Kit.due("version", x.object(0, 3), 1);
         x.put(0, 0, 4);
         x.drop(1);
         Kit.due("flush", x.flush(0), 0);
-        state(x, 0, LOADED);
+        Kit.state(x, 0, LOADED);
         Kit.due("version", x.object(0, 3), 2);
-        state(x, 1, GONE);
+        Kit.state(x, 1, GONE);
         Kit.due("its key", x.object(1, 1), 2);
         Kit.due("flush", x.flush(0), 0);
-        noWrite(x, 0);
+        Kit.noWrite(x, 0);
         x.put(0, 0, 0);
         Kit.due("other than the copy of now", x.flush(0), 0);
         Kit.wrote(x, 0, 1, 0, 1, 1);
@@ -502,7 +494,7 @@ final class WritingEdges {
         x.link(1, 1, 1);
         Kit.due("a rule is broken", x.close(0, 1), 1);
         Kit.due("it stays", x.count(1), 1);
-        state(x, 0, NEW);
+        Kit.state(x, 0, NEW);
         x.put(1, 0, 1);
         Kit.due("written", x.close(0, 1), 0);
         Kit.due("closed", x.count(1), 0);
@@ -605,7 +597,7 @@ final class WritingEdges {
         Kit.due("the second change breaks it", x.flush(0), 1);
         Sentences.promise(12, "3: how many columns (of a change; else 0).");
         Kit.wrote(x, 0, 1, 0, 1, 2);
-        noWrite(x, 1);
+        Kit.noWrite(x, 1);
         x.drop(1);
         Kit.due("flush", x.flush(0), 0);
         Kit.wrote(x, 0, 1, 0, 1, 2);
@@ -620,26 +612,17 @@ final class WritingEdges {
             Kit.due("write(0, " + what + ")", x.write(0, what), NONE);
         }
         x.flush(0);
-        noWrite(x, 0);
+        Kit.noWrite(x, 0);
         manyWrites();
     }
 
-    /** Sixty in a circle of two ways: all but the last one are put off. */
     private static void manyWrites() {
-        BeeRegister x = Kit.mapped("class A { next : to A ; back : to A ; }");
-        x.unit();
-        for (int i = 0; i < 60; i++) {
-            x.make(0, 0);
-        }
-        for (int i = 0; i < 60; i++) {
-            x.link(i, 0, i < 59 ? i + 1 : NONE);
-            x.link(i, 1, i - 1);
-        }
+        BeeRegister x = LimitsTest.chainOfSixty();
         Kit.due("flush", x.flush(0), 0);
         Kit.wrote(x, 59, 0, 0, 60, 0);
         Kit.wrote(x, 60, 1, 0, 1, 1);
         Kit.wrote(x, 118, 1, 0, 59, 1);
-        noWrite(x, 119);
+        Kit.noWrite(x, 119);
     }
 
     /** Rows A 1 and H 2 (an heir of A), which leads to itself by m. */

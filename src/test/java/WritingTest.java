@@ -8,12 +8,6 @@ public final class WritingTest {
         }
     }
 
-    private static void noWrite(BeeRegister x, int i) {
-        for (int what = 0; what < 4; what++) {
-            Kit.due("write(" + i + ", " + what + ")", x.write(i, what), NONE);
-        }
-    }
-
     private static void closes() {
         BeeRegister x = Kit.mapped("class A { n : whole unique ; }");
         Kit.due("no unit", x.close(0, 0), NONE);
@@ -56,7 +50,7 @@ public final class WritingTest {
         BeeRegister x = Kit.mapped("class A { n : whole ; m : small ; a : to A ; }");
         x.unit();
         Kit.due("nothing to write", x.flush(0), 0);
-        noWrite(x, 0);
+        Kit.noWrite(x, 0);
         x.make(0, 0);
         x.put(0, 0, 8);
         Kit.due("flush", x.flush(0), 0);
@@ -67,22 +61,22 @@ public final class WritingTest {
         Kit.due("write(0, 4)", x.write(0, 4), NONE);
         Kit.due("write(0, -1)", x.write(0, -1), NONE);
         Kit.due("write(-1, 0)", x.write(-1, 0), NONE);
-        noWrite(x, 1);
+        Kit.noWrite(x, 1);
         row(x, "inserted", 0, 1, 0, 1, 8, 0, 0);
         Kit.due("it is loaded", x.object(0, 0), 1);
         Kit.due("its version", x.object(0, 3), 1);
         Kit.due("no row was loaded", x.loads(0), 0);
         Kit.due("flush again", x.flush(0), 0);
-        noWrite(x, 0);
+        Kit.noWrite(x, 0);
         x.put(0, 1, 4);
         x.put(0, 1, 0);
         x.flush(0);
-        noWrite(x, 0);
+        Kit.noWrite(x, 0);
         x.put(0, 1, 4);
         x.link(0, 2, 0);
         Kit.due("flush", x.flush(0), 0);
         Kit.wrote(x, 0, 1, 0, 1, 2);
-        noWrite(x, 1);
+        Kit.noWrite(x, 1);
         row(x, "changed", 0, 1, 0, 2, 8, 4, 1);
         Kit.due("its version", x.object(0, 3), 2);
         x.drop(0);
@@ -115,7 +109,7 @@ public final class WritingTest {
         Kit.wrote(x, 4, 0, 1, 1, 0);
         Kit.wrote(x, 5, 1, 0, 2, 1);
         Kit.wrote(x, 6, 1, 0, 3, 1);
-        noWrite(x, 7);
+        Kit.noWrite(x, 7);
         row(x, "put off", 0, 2, 0, 2, 1);
         row(x, "put off", 0, 3, 0, 2, 1);
         row(x, "not put off", 1, 1, 1, 1, 3, 1);
@@ -127,7 +121,7 @@ public final class WritingTest {
         Kit.due("flush", x.flush(0), 0);
         Kit.wrote(x, 0, 1, 1, 1, 1);
         Kit.wrote(x, 1, 1, 3, 1, 1);
-        noWrite(x, 2);
+        Kit.noWrite(x, 2);
     }
 
     private static void deletesInOrder() {
@@ -151,7 +145,7 @@ public final class WritingTest {
         Kit.wrote(x, 3, 2, 1, 1, 0);
         Kit.wrote(x, 4, 2, 0, 1, 0);
         Kit.wrote(x, 5, 2, 1, 3, 0);
-        noWrite(x, 6);
+        Kit.noWrite(x, 6);
         Kit.due("rows", x.count(2), 0);
     }
 
@@ -165,7 +159,7 @@ public final class WritingTest {
         Kit.due("must", x.flush(0), 1);
         Kit.came(x, 1, 1, 2, 2, 0);
         Kit.wrote(x, 0, 0, 0, 1, 0);
-        noWrite(x, 1);
+        Kit.noWrite(x, 1);
         Kit.due("no rows", x.count(2), 0);
         Kit.due("still new", x.object(0, 0), 2);
         Kit.due("hooks were run", x.value(0, 0), 12);
@@ -189,7 +183,7 @@ public final class WritingTest {
         x.put(1, 0, 1);
         x.put(1, 1, 14);
         Kit.due("the hooks take the change back", x.flush(0), 0);
-        noWrite(x, 0);
+        Kit.noWrite(x, 0);
         Kit.due("as it was", x.value(1, 0), 101);
         Kit.due("version", x.object(1, 3), 2);
     }
@@ -218,7 +212,7 @@ public final class WritingTest {
         Kit.due("unique in a change", x.flush(0), 1);
         Kit.came(x, 1, 0, 2, 0, 1);
         Kit.wrote(x, 0, 0, 1, 3, 0);
-        noWrite(x, 1);
+        Kit.noWrite(x, 1);
         Kit.due("all rows are as they were", x.count(2), 3);
         Kit.due("the new one is new", x.object(3, 0), 2);
         x.put(2, 0, 1);
@@ -290,7 +284,7 @@ public final class WritingTest {
         Kit.due("the row has another version", x.flush(2), 2);
         Kit.came(x, 2, 0, 1, NONE, NONE);
         Kit.wrote(x, 0, 0, 0, 4, 0);
-        noWrite(x, 1);
+        Kit.noWrite(x, 1);
         Kit.due("the unit is closed", x.flush(2), NONE);
         Kit.due("all rows are as they were", x.count(2), 3);
         row(x, "the first write stays", 0, 1, 0, 2, 5, 0);
@@ -328,7 +322,7 @@ public final class WritingTest {
         Kit.due("flush", x.flush(0), 4);
         Kit.came(x, 4, 0, 1, NONE, NONE);
         Kit.wrote(x, 0, 0, 2, 1, 0);
-        noWrite(x, 1);
+        Kit.noWrite(x, 1);
         Kit.due("rows", x.count(2), 0);
         Kit.due("the unit stays", x.count(1), 1);
     }
@@ -348,7 +342,7 @@ public final class WritingTest {
         Kit.due("no room", x.flush(0), 5);
         Kit.came(x, 5, 2, 61, NONE, NONE);
         Kit.wrote(x, 0, 0, 1, 1, 0);
-        noWrite(x, 1);
+        Kit.noWrite(x, 1);
         Kit.due("rows", x.count(2), 60);
         x.find(0, 0, 7);
         x.drop(2);
@@ -401,7 +395,7 @@ public final class WritingTest {
         Kit.due("no writing", x.outcome(0), 0);
         Kit.wrote(x, 0, 0, 1, 2, 0);
         Kit.wrote(x, 1, 0, 0, 1, 0);
-        noWrite(x, 2);
+        Kit.noWrite(x, 2);
     }
 
     public static void main(String[] args) {
